@@ -262,7 +262,7 @@ public final class BellCores {
         if (!isWithin(hours, 0, MOST_HOURS)) {
             throw new IllegalArgumentException("the hours are not from 0 to 48");
         }
-        return foundry.bells.get(bell, CRACKS) + foundry.cracksToCome(bell, hours);
+        return foundry.cracksAfter(bell, hours);
     }
 
     public int coldIn(int bell) throws IndexOutOfBoundsException {
@@ -629,20 +629,20 @@ public final class BellCores {
             return row >= 0 && row < rows;
         }
 
-        private int cellOf(int row, int column) {
-            return has(row) && column >= 0 && column < width ? row * width + column : -1;
-        }
-
+        /** Returns 0 where there is no such cell. */
         int get(int row, int column) {
-            int cell = cellOf(row, column);
-            return cell < 0 ? 0 : cells[cell];
+            if (row < 0 || row >= rows || column < 0 || column >= width) {
+                return 0;
+            }
+            return cells[row * width + column];
         }
 
+        /** Does nothing where there is no such cell. */
         void put(int row, int column, int value) {
-            int cell = cellOf(row, column);
-            if (cell >= 0) {
-                cells[cell] = value;
+            if (row < 0 || row >= rows || column < 0 || column >= width) {
+                return;
             }
+            cells[row * width + column] = value;
         }
 
         void raise(int row, int column, int by) {
@@ -661,8 +661,9 @@ public final class BellCores {
             return rows - 1;
         }
 
+        /** Takes a row out: the numbers of those behind it become 1 less. */
         void drop(int row) {
-            if (!has(row)) {
+            if (row < 0 || row >= rows) {
                 return;
             }
             for (int cell = row * width; cell < (rows - 1) * width; cell++) {
@@ -786,7 +787,7 @@ public final class BellCores {
         }
 
         int lossOn(int rack) {
-            return racks.get(rack, DRAUGHT) + 2 * (RACK_PLACES - bellsOn(rack));
+            return racks.get(rack, DRAUGHT) + 2 * (RACK_PLACES - bells.countOf(RACK, rack));
         }
 
         boolean hasBoth(int mould, int rack) {
@@ -823,46 +824,46 @@ public final class BellCores {
             return bell;
         }
 
-        /** Returns how many cracks came. No bell moves meanwhile, so that each bell has one loss for all hours. */
+        /** Returns how many cracks came. No bell moves meanwhile, so that each one loses the same in all the hours. */
         int letHoursGoBy(int hours) {
             heat = Math.max(LEAST_HEAT, heat - HEAT_LOST_IN_AN_HOUR * hours);
             hoursGone += hours;
             int came = 0;
             for (int bell = 0; bell < bells.size(); bell++) {
-                came += coolBell(bell, hours);
+                int loss = lossOf(bell);
+                int more = cracksToCome(bell, loss, hours);
+                addCracks(bell, more);
+                bells.put(bell, WARMTH, Math.max(0, bells.get(bell, WARMTH) - loss * hours));
+                came += more;
             }
             return came;
         }
 
-        private int coolBell(int bell, int hours) {
+        /** What a bell would lose in an hour, be there so much warmth or not; nothing in the hall. */
+        private int lossOf(int bell) {
             int rack = bells.get(bell, RACK);
-            if (rack == HALL) {
-                return 0;
-            }
-            int came = cracksToCome(bell, hours);
-            int warmth = bells.get(bell, WARMTH) - lossOn(rack) * hours;
-            bells.put(bell, WARMTH, Math.max(0, warmth));
-            addCracks(bell, came);
-            return came;
+            return rack == HALL ? 0 : lossOn(rack);
         }
 
-        /** How many cracks a bell would get: one in each hour that finds it warm, if its loss is too great. */
-        int cracksToCome(int bell, int hours) {
-            int loss = lossOn(bells.get(bell, RACK));
+        /** A bell gets a crack in each hour that finds it warm, if its loss is too great. */
+        private int cracksToCome(int bell, int loss, int hours) {
             if (loss <= 6 + 2 * bells.get(bell, SAND)) {
                 return 0;
             }
-            int warmHours = Math.min(hours, hoursUntilCold(bell));
-            return Math.min(warmHours, MOST_CRACKS - bells.get(bell, CRACKS));
+            int hoursThatCrack = Math.min(hours, warmHours(bells.get(bell, WARMTH), loss));
+            return Math.min(hoursThatCrack, MOST_CRACKS - bells.get(bell, CRACKS));
+        }
+
+        private static int warmHours(int warmth, int loss) {
+            return loss <= 0 ? 0 : (warmth + loss - 1) / loss;
+        }
+
+        int cracksAfter(int bell, int hours) {
+            return bells.get(bell, CRACKS) + cracksToCome(bell, lossOf(bell), hours);
         }
 
         int hoursUntilCold(int bell) {
-            int rack = bells.get(bell, RACK);
-            int loss = lossOn(rack);
-            if (rack == HALL || loss <= 0) {
-                return 0;
-            }
-            return (bells.get(bell, WARMTH) + loss - 1) / loss;
+            return warmHours(bells.get(bell, WARMTH), lossOf(bell));
         }
 
         private void addCracks(int bell, int more) {
@@ -913,12 +914,9 @@ public final class BellCores {
             bells.raise(bell, TALLY, marks);
         }
 
-        private int lostByRecast(int bell) {
-            return bells.get(bell, POUNDS) / 10;
-        }
-
         private int backByRecast(int bell) {
-            return bells.get(bell, POUNDS) - lostByRecast(bell);
+            int weight = bells.get(bell, POUNDS);
+            return weight - weight / 10;
         }
 
         boolean refusesRecast(int bell, Refusal refusal) {
@@ -929,7 +927,7 @@ public final class BellCores {
         int recastBell(int bell) {
             int back = backByRecast(bell);
             pounds += back;
-            lost += lostByRecast(bell);
+            lost += bells.get(bell, POUNDS) - back;
             bells.drop(bell);
             return back;
         }
@@ -960,7 +958,7 @@ public final class BellCores {
             int note = noteOf(bell);
             int ahead = 0;
             for (int other = 0; other < bells.size(); other++) {
-                if (noteOf(other) > note || noteOf(other) == note && other < bell) {
+                if (noteOf(other) > note || (noteOf(other) == note && other < bell)) {
                     ahead++;
                 }
             }
@@ -1180,7 +1178,7 @@ public final class BellCores {
             int best = 0;
             int greatest = 0;
             for (int mould = 0; mould < count; mould++) {
-                if ((set & 1 << mould) == 0 && cores[mould] > greatest) {
+                if ((set & (1 << mould)) == 0 && cores[mould] > greatest) {
                     best = mould;
                     greatest = cores[mould];
                 }
@@ -1240,7 +1238,7 @@ public final class BellCores {
         }
 
         private void pourInto(int set, int mould) {
-            int more = set | 1 << mould;
+            int more = set | (1 << mould);
             if (more == set || more >= SETS || set < 0 || mould < 0 || mould >= count) {
                 return;
             }
