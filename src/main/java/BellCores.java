@@ -685,9 +685,12 @@ public final class BellCores {
         }
 
         int countOf(int column, int value) {
+            if (column < 0 || column >= width) {
+                return 0;
+            }
             int count = 0;
             for (int row = 0; row < rows; row++) {
-                if (get(row, column) == value) {
+                if (cells[row * width + column] == value) {
                     count++;
                 }
             }

@@ -262,9 +262,16 @@ public final class BellCoresPromises {
         due(8, "the old number", INDEX, () -> x.rackOf(2, 0));
         x.pass(48);
         x.take(0);
-        due(8, "strike(0) when empty", 1, () -> x.strike(0));
-        due(8, "the bell in the hall stays there", -1, () -> x.bellOf(0, 3));
-        due(8, "the bell on the rack", 0, () -> x.bellOf(1, 3));
+        x.recast(0);
+        due(8, "the first bell is behind it now", 1, () -> x.bellOf(0, 3));
+        x.rack(8);
+        cast(x, 10, 4, 2);
+        x.pass(48);
+        x.take(2);
+        due(8, "strike(0) when empty", 2, () -> x.strike(0));
+        due(8, "the first bell moves with its rack", 0, () -> x.bellOf(0, 3));
+        due(8, "the bell in the hall stays there", -1, () -> x.bellOf(2, 3));
+        due(8, "strike(1) when empty", 1, () -> x.strike(1));
     }
 
     private static void rackOf() {
@@ -312,6 +319,16 @@ public final class BellCoresPromises {
         due(10, "the bells poured", 1, () -> x.account(12));
         due(10, "the next one", 1, () -> x.pour(0, 0));
         due(10, "the heat then", 1343, () -> x.account(0));
+        BellCores again = cracked(3);
+        again.file(0, 4);
+        again.take(1);
+        again.take(2);
+        again.recast(2);
+        again.recast(1);
+        again.recast(0);
+        again.coal(20);
+        cast(again, 22, 1, 1);
+        due(10, "a bell in the place of a recast one", "22 1 120 1 44 0 0; ", () -> bellsOf(again));
         pourRefusals();
     }
 
@@ -427,6 +444,13 @@ public final class BellCoresPromises {
         due(12, "take(0)", 1, () -> x.take(0));
         due(12, "in the hall", -1, () -> x.bellOf(0, 3));
         refused(12, "a bell in the hall", x, 5, -1, () -> x.take(0));
+        for (int i = 1; i < 4; i++) {
+            cast(x, 10, 4, 0);
+        }
+        x.pass(19);
+        refused(12, "a warmth of 1", x, 4, 1, () -> x.take(3));
+        x.pass(1);
+        due(12, "then without", 0, () -> x.take(3));
         due(12, "room on the rack", 0, () -> x.rackOf(1, 1));
     }
 
@@ -619,8 +643,20 @@ public final class BellCoresPromises {
         all.file(0, 1);
         dueByBoth(20, all, 1, 70);
         all.undo();
-        all.file(4, 1);
-        dueByBoth(20, all, 5, 70);
+        for (int[] row : new int[][] {{0, 1}, {1, 2}, {2, 3}, {3, 4}, {4, 5}, {5, 6}, {8, 0}}) {
+            all.recast(row[0]);
+            dueByBoth(20, all, row[1], 70);
+            all.undo();
+        }
+        all.file(6, 1);
+        dueByBoth(20, all, 8, 70);
+        all.file(7, 1);
+        dueByBoth(20, all, 7, 70);
+        BellCores high = hallOf(10);
+        dueByBoth(20, high, 1, 90);
+        high.file(0, 6);
+        dueByBoth(20, high, 1, 96);
+        dueByBoth(20, high, 0, 100);
         BellCores rack = full();
         rack.rack(1);
         cast(rack, 30, 4, 0);
@@ -637,6 +673,11 @@ public final class BellCoresPromises {
         due(21, "the lowest of several", 60, alike::longest);
         BellCores two = hallOf(40, 30, 28);
         due(21, "the longest", 70, two::longest);
+        due(21, "the highest", 96, () -> {
+            BellCores high = hallOf(10);
+            high.file(0, 6);
+            return high.longest();
+        });
         two.recast(1);
         due(21, "the longest then", 60, two::longest);
     }
@@ -686,6 +727,10 @@ public final class BellCoresPromises {
         // The core 40 takes 42 of the heat: then the core 30 lacks 2 of the 940 that it needs.
         BellCores cool = moulds(980, 2000, 30, 40);
         due(23, "the heat falls", 1, () -> cool.pourable(true));
+        due(23, "the hottest is the first mould", 1, () -> moulds(1400, 180, 30, 10, 10, 10).pourable(false));
+        due(23, "the heat that it needs", 1, () -> moulds(780, 2000, 10).pourable(true));
+        due(23, "the heat that it needs, the hottest", 1, () -> moulds(780, 2000, 10).pourable(false));
+        due(23, "less heat than it needs", 0, () -> moulds(775, 2000, 10).pourable(true));
         due(23, "the hottest pours what it can", 1, () -> moulds(980, 2000, 10, 60).pourable(false));
         due(23, "just enough heat", 2, () -> moulds(1025, 2000, 40, 35).pourable(true));
         due(23, "just enough bronze", 2, () -> moulds(1400, 120, 10, 10).pourable(true));
@@ -795,6 +840,7 @@ public final class BellCoresPromises {
         due(29, "one change", 1, () -> x.account(15));
         due(29, "k", 1, () -> run(x, "k0"));
         due(29, "recast", 0, () -> x.account(4));
+        due(29, "an hour", 1, () -> run(x, "h1"));
         due(29, "numbers with a 0 ahead", 5, () -> run(x, "c01;b005;m10s0;r1;h07"));
         due(29, "its pounds", 474, () -> x.account(1));
         due(29, "twenty orders", 20,
