@@ -1135,7 +1135,6 @@ public final class BellCores {
     /** The ways in which the moulds can be poured one after the other. */
     private static final class Pouring {
         private static final int SETS = 1 << MOULD_ROOM;
-        private static final int NOT_REACHED = -1;
 
         private final int[] cores = new int[MOULD_ROOM];
         private int count = 0;
@@ -1144,6 +1143,8 @@ public final class BellCores {
         // By the set of moulds poured, a bit for each: in what order they were poured does not change what is left.
         private final int[] heatLeft = new int[SETS];
         private final int[] poundsLeft = new int[SETS];
+        // By the same sets: how many moulds the best way pours behind those of the set.
+        private final int[] mostBehind = new int[SETS];
 
         void lookAt(Foundry foundry) {
             count = Math.min(MOULD_ROOM, foundry.moulds.size());
@@ -1189,67 +1190,58 @@ public final class BellCores {
             return best;
         }
 
+        /** How many moulds the best way pours. */
         int best() {
-            reachNone();
-            heatLeft[0] = heat;
-            poundsLeft[0] = pounds;
-            return reachAll();
+            weighWhatIsLeft();
+            countBehind();
+            return mostBehind[0];
         }
 
         /** The lowest mould with which a best way begins, or -1 if none could be poured. */
         int firstOfBest() {
             int most = best();
-            if (most == 0) {
-                return -1;
-            }
             for (int mould = 0; mould < count; mould++) {
-                if (bestBeginningWith(mould) == most) {
+                if (most > 0 && pouredWithNext(0, mould) == most) {
                     return mould;
                 }
             }
             return -1;
         }
 
-        private int bestBeginningWith(int mould) {
-            reachNone();
+        /** Sets that no way reaches are weighed too: what stands there is asked for by none that a way reaches. */
+        private void weighWhatIsLeft() {
             heatLeft[0] = heat;
             poundsLeft[0] = pounds;
-            pourInto(0, mould);
-            heatLeft[0] = NOT_REACHED;
-            return reachAll();
-        }
-
-        private void reachNone() {
-            for (int set = 0; set < SETS; set++) {
-                heatLeft[set] = NOT_REACHED;
-                poundsLeft[set] = 0;
-            }
-        }
-
-        /** Goes on from all that is reached, and returns how many moulds the greatest reached set has. */
-        private int reachAll() {
-            int most = 0;
-            for (int set = 0; set < SETS; set++) {
-                if (heatLeft[set] != NOT_REACHED) {
-                    most = Math.max(most, Integer.bitCount(set));
-                    for (int mould = 0; mould < count; mould++) {
-                        pourInto(set, mould);
-                    }
+            for (int mould = 0; mould < count; mould++) {
+                int bit = 1 << mould;
+                for (int set = 0; set < bit; set++) {
+                    heatLeft[set + bit] = heatAfterPouring(heatLeft[set], cores[mould]);
+                    poundsLeft[set + bit] = poundsLeft[set] - poundsFor(cores[mould]);
                 }
             }
-            return most;
         }
 
-        private void pourInto(int set, int mould) {
+        /** From the greatest set on, as each one asks for those that have one mould more. */
+        private void countBehind() {
+            for (int set = (1 << count) - 1; set >= 0; set--) {
+                int most = 0;
+                for (int mould = 0; mould < count; mould++) {
+                    most = Math.max(most, pouredWithNext(set, mould));
+                }
+                mostBehind[set] = most;
+            }
+        }
+
+        /** How many moulds can be poured behind those of the set if this is the next one; 0 if it cannot be. */
+        private int pouredWithNext(int set, int mould) {
+            if (set < 0 || set >= SETS || mould < 0 || mould >= count) {
+                return 0;
+            }
             int more = set | (1 << mould);
-            if (more == set || more >= SETS || set < 0 || mould < 0 || mould >= count) {
-                return;
+            if (more == set || more >= SETS || !isEnough(cores[mould], heatLeft[set], poundsLeft[set])) {
+                return 0;
             }
-            int core = cores[mould];
-            if (isEnough(core, heatLeft[set], poundsLeft[set])) {
-                heatLeft[more] = heatAfterPouring(heatLeft[set], core);
-                poundsLeft[more] = poundsLeft[set] - poundsFor(core);
-            }
+            return 1 + mostBehind[more];
         }
     }
 

@@ -740,6 +740,13 @@ public final class BellCoresPromises {
         due(23, "heat for two only, the best", 2, () -> cold.pourable(true));
         due(23, "heat for two only, the hottest", 2, () -> cold.pourable(false));
         due(23, "nothing was poured", 3, () -> cold.account(2));
+        BellCores fewer = moulds(1400, 2000, 20, 30, 60);
+        for (int left = 3; left >= 0; left--) {
+            int most = left;
+            due(23, left + " left, the best", most, () -> fewer.pourable(true));
+            due(23, left + " left, the hottest", most, () -> fewer.pourable(false));
+            answerOf(() -> fewer.smash(most - 1));
+        }
     }
 
     private static void first() {
@@ -753,6 +760,10 @@ public final class BellCoresPromises {
         BellCores x = moulds(1400, 2000, 10, 60);
         x.first();
         due(24, "nothing was poured", 2, () -> x.account(2));
+        x.smash(0);
+        due(24, "the one that is left", 0, x::first);
+        x.smash(0);
+        due(24, "none is left", NONE, x::first);
     }
 
     private static void line() {
@@ -971,6 +982,12 @@ public final class BellCoresPromises {
         x.undo();
         due(33, "undone", true, x::isWell);
         due(33, "with a peal", true, () -> hallOf(30, 28, 26, 25, 23, 21, 19, 18).isWell());
+        BellCores crowded = full();
+        crowded.rack(1);
+        for (int i = 0; i < 3; i++) {
+            cast(crowded, 20, 4, 0);
+        }
+        due(33, "with a full rack", true, crowded::isWell);
         due(33, "where the ways differ", true, () -> moulds(1400, 180, 10, 30, 10, 10).isWell());
     }
 
