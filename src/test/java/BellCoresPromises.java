@@ -747,6 +747,10 @@ public final class BellCoresPromises {
             due(23, left + " left, the hottest", most, () -> fewer.pourable(false));
             answerOf(() -> fewer.smash(most - 1));
         }
+        BellCores without = moulds(1000, 2000, 10, 60);
+        without.pourable(false);
+        without.smash(1);
+        due(23, "the hottest without a mould that is gone", 1, () -> without.pourable(false));
     }
 
     private static void first() {
