@@ -38,6 +38,19 @@ final class BellEdges extends Foundries {
             due("the least", "b10 0 60 0 20 0 0 ", () -> bellAt(x, 0));
             due("the greatest", "b60 4 310 0 120 0 0 ", () -> bellAt(x, 1));
         });
+        edge(0, bell, "in the place of one with marks and cracks", () -> {
+            BellCores x = readyForAll();
+            x.take(2);
+            x.recast(2);
+            x.take(1);
+            x.recast(1);
+            x.file(0, 6);
+            x.recast(0);
+            due("its number", 0, () -> x.pour(0, 0));
+            due("it", "b10 1 60 0 20 0 0 ", () -> bellAt(x, 0));
+            due("its note", 90, () -> x.note(0, false));
+            due("its note again", 90, () -> x.note(0, true));
+        });
         String recast = "When a bell is recast, the numbers of those behind become 1 less.";
         edge(0, recast, "the first, a middle, the last and the only bell", () -> {
             String[] wants = {"b20 4 110 -1 0 0 0 b30 4 160 -1 0 0 0 ", "b10 4 60 -1 0 0 0 b30 4 160 -1 0 0 0 ",
@@ -237,6 +250,15 @@ final class BellEdges extends Foundries {
                 BellCores x = hallOf(Arrays.copyOf(cores, length));
                 duePeal(x, 70, length);
             }
+        });
+        edge(0, "The steps of a peal are 0, 2, 4, 5, 7, 9, 11 and 12.", "notes between them", () -> {
+            BellCores x = hallOf(30, 29, 28, 27, 26, 25, 24, 23, 22, 21, 20, 19);
+            duePeal(x, 70, 7);
+            x.file(11, 1);
+            duePeal(x, 70, 6);
+            BellCores last = hallOf(cores);
+            last.file(7, 1);
+            duePeal(last, 70, 7);
         });
         edge(0, peal, "one step that is missing", () -> {
             for (int missing = 0; missing < 8; missing++) {

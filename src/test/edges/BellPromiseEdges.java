@@ -10,21 +10,18 @@ final class BellPromiseEdges extends Foundries {
         edge(10, noSuch, "the rack, of none, of one and of 4", () -> {
             among(eightMoulds(), 0, INDEX, (x, n) -> x.pour(0, n));
             among(withRacks(eightMoulds(), 1), 1, INDEX, (x, n) -> x.pour(7, n));
-            among(withMoulds(fourRacks(), 10), 4, INDEX, (x, n) -> x.pour(0, n));
+            among(withMoulds(fourRacks(), 10, 10), 4, INDEX, (x, n) -> x.pour(0, n));
         });
         edge(10, noSuch, "both", () -> among(settled(new BellCores()), 0, INDEX, (x, n) -> x.pour(n, n)));
         String reasons = reason("1, for the bells, then for those on the rack, 2 or 3");
         edge(10, reasons, "1 for the bells", () -> {
-            BellCores x = withMoulds(twelve(2000), 10);
-            refused(x, "onto a full rack", 1, 12, () -> x.pour(0, 0));
-            x.pass(20);
-            x.take(0);
-            refused(x, "onto a rack with room", 1, 12, () -> x.pour(0, 0));
+            BellCores full = withMoulds(twelve(2000), 10);
+            refused(full, "onto a full rack", 1, 12, () -> full.pour(0, 0));
+            BellCores room = withMoulds(twelveCold(0), 10);
+            refused(room, "onto a rack with room", 1, 12, () -> room.pour(0, 0));
         });
         edge(10, reasons, "1 for those on the rack", () -> {
-            BellCores x = withMoulds(twelve(2000), 10);
-            x.pass(20);
-            x.take(0);
+            BellCores x = withMoulds(twelveCold(0), 10);
             x.recast(0);
             settled(x);
             refused(x, "onto rack 3", 1, 3, () -> x.pour(0, 3));
@@ -42,9 +39,7 @@ final class BellPromiseEdges extends Foundries {
         });
         edge(10, "Returns the number of the bell.", "the first and the last", () -> {
             due("the first", 0, () -> withMoulds(fourRacks(), 10).pour(0, 3));
-            BellCores x = withMoulds(twelve(2000), 10);
-            x.pass(20);
-            x.take(11);
+            BellCores x = withMoulds(twelveCold(11), 10);
             x.recast(11);
             due("the last", 11, () -> x.pour(0, 3));
             dueAccount(x, "the bells poured", 12, 13);
@@ -93,8 +88,7 @@ final class BellPromiseEdges extends Foundries {
             refused(x, "once more", 5, -1, () -> x.take(0));
         });
         edge(12, "Returns the rack.", "the first and the last", () -> {
-            BellCores x = twelve(2000);
-            x.pass(20);
+            BellCores x = twelveCold();
             due("of bell 11", 3, () -> x.take(11));
             due("of bell 0", 0, () -> x.take(0));
         });
@@ -104,17 +98,30 @@ final class BellPromiseEdges extends Foundries {
             among(twelve(2000), 12, INDEX, BellCores::ring);
         });
         edge(13, reason("5, with its rack"), "the first and the last rack, warm and cold", () -> {
-            BellCores x = twelve(2000);
-            refused(x, "ring(0)", 5, 0, () -> x.ring(0));
-            refused(x, "ring(11)", 5, 3, () -> x.ring(11));
-            x.pass(20);
-            refused(x, "ring(11) when it is cold", 5, 3, () -> x.ring(11));
-            x.take(11);
-            due("ring(11) in the hall", 90, () -> x.ring(11));
+            BellCores first = twelve(2000);
+            refused(first, "ring(0)", 5, 0, () -> first.ring(0));
+            BellCores last = twelve(2000);
+            refused(last, "ring(11)", 5, 3, () -> last.ring(11));
+            BellCores cold = twelveCold();
+            refused(cold, "ring(11) when it is cold", 5, 3, () -> cold.ring(11));
+            cold.take(11);
+            due("ring(11) in the hall", 90, () -> cold.ring(11));
         });
     }
 
     private static void edgesOfFileAndRecast() {
+        edge(13, "Returns its note, as it was rung.", "ahead of the crack that comes, and behind it", () -> {
+            BellCores x = cracked(8);
+            due("with 8 cracks", 32, () -> x.ring(0));
+            due("with 9", 31, () -> x.ring(0));
+            due("still with 9", 31, () -> x.ring(0));
+            due("a sound one", 90, () -> hallOf(10).ring(0));
+        });
+        edge(14, "Returns its note then.", "with one mark and with 6", () -> {
+            BellCores x = cracked(9);
+            due("with one", 32, () -> x.file(0, 1));
+            due("with 6", 37, () -> x.file(0, 5));
+        });
         edge(14, noSuch("bell"), "of none, of one and of 12", () -> {
             among(fourRacks(), 0, INDEX, (x, n) -> x.file(n, 1));
             among(hallOf(10), 1, INDEX, (x, n) -> x.file(n, 1));
@@ -124,9 +131,10 @@ final class BellPromiseEdges extends Foundries {
             range(() -> hallOf(20), 1, 6, (x, n) -> x.file(0, n)));
         String file = reason("5, with its rack, or 7");
         edge(14, file, "5", () -> {
-            BellCores x = twelve(2000);
-            refused(x, "file(0, 1)", 5, 0, () -> x.file(0, 1));
-            refused(x, "file(11, 6)", 5, 3, () -> x.file(11, 6));
+            BellCores first = twelve(2000);
+            refused(first, "file(0, 1)", 5, 0, () -> first.file(0, 1));
+            BellCores last = twelve(2000);
+            refused(last, "file(11, 6)", 5, 3, () -> last.file(11, 6));
         });
         edge(14, file, "7", () -> {
             BellCores x = hallOf(20);
@@ -145,9 +153,10 @@ final class BellPromiseEdges extends Foundries {
         });
         String recast = reason("5, with its rack, or 1, for the pounds");
         edge(15, recast, "5", () -> {
-            BellCores x = twelve(2000);
-            refused(x, "recast(0)", 5, 0, () -> x.recast(0));
-            refused(x, "recast(11)", 5, 3, () -> x.recast(11));
+            BellCores first = twelve(2000);
+            refused(first, "recast(0)", 5, 0, () -> first.recast(0));
+            BellCores last = twelve(2000);
+            refused(last, "recast(11)", 5, 3, () -> last.recast(11));
         });
         edge(15, recast, "1, a pound too many, and the brim", () -> {
             // 2000 less 65; 59 of these come back.

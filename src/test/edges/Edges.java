@@ -124,7 +124,7 @@ abstract class Edges {
         });
     }
 
-    /** There are so many, of which the last one is known; what lies outside is not, and changes nothing. */
+    /** There are so many, of which the last and the first are known; what lies outside is not, and changes nothing. */
     static void among(BellCores x, int count, String exception, Asked call) {
         stays(x, () -> {
             for (int number : new int[] {-1, count, Integer.MIN_VALUE, Integer.MAX_VALUE, 65536, -65536, 1 << 28,
@@ -132,9 +132,9 @@ abstract class Edges {
                 due("" + number, exception, () -> call.answer(x, number));
             }
         });
-        if (count > 0) {
-            int last = count - 1;
-            due("the last one, " + last, true, () -> !exception.equals(answerOf(() -> call.answer(x, last))));
+        for (int i = Math.min(count, 2); i > 0; i--) {
+            int number = i == 2 ? count - 1 : 0;
+            due(number + " is known", true, () -> !exception.equals(answerOf(() -> call.answer(x, number))));
         }
     }
 

@@ -104,6 +104,16 @@ abstract class Foundries extends Edges {
         return settled(x);
     }
 
+    /** The same, cold, and these in the hall. */
+    static BellCores twelveCold(int... inHall) {
+        BellCores x = twelve(2000);
+        x.pass(20);
+        for (int bell : inHall) {
+            x.take(bell);
+        }
+        return settled(x);
+    }
+
     static BellCores eightMoulds() {
         return withMoulds(hot(), 10, 20, 30, 40, 50, 60, 11, 12);
     }

@@ -134,9 +134,10 @@ final class FurnacePromiseEdges extends Foundries {
             due("without it", 3, () -> x.strike(3));
         });
         edge(8, reason("6"), "a full rack", () -> {
-            BellCores x = twelve(2000);
-            refused(x, "strike(0)", 6, 3, () -> x.strike(0));
-            refused(x, "strike(3)", 6, 3, () -> x.strike(3));
+            BellCores first = twelve(2000);
+            refused(first, "strike(0)", 6, 3, () -> first.strike(0));
+            BellCores last = twelve(2000);
+            refused(last, "strike(3)", 6, 3, () -> last.strike(3));
         });
         edge(8, "Returns how many racks there are then.", "of one and of 4", () -> {
             due("of one", 0, () -> withRacks(new BellCores(), 1).strike(0));

@@ -19,14 +19,14 @@ final class PealPromiseEdges extends Foundries {
             throwing(x, "longest", NONE, x::longest);
         });
         edge(21, none, "bells on racks alone", () -> {
-            BellCores x = twelve(2000);
-            throwing(x, "when they are warm", NONE, x::longest);
-            x.pass(20);
-            throwing(x, "when they are cold", NONE, x::longest);
-            x.take(11);
-            due("with one in the hall", 90, x::longest);
-            x.undo();
-            throwing(x, "when that is undone", NONE, x::longest);
+            BellCores warm = twelve(2000);
+            throwing(warm, "when they are warm", NONE, warm::longest);
+            BellCores cold = twelveCold();
+            throwing(cold, "when they are cold", NONE, cold::longest);
+            cold.take(11);
+            due("with one in the hall", 90, cold::longest);
+            cold.undo();
+            due("when that is undone", NONE, cold::longest);
         });
         edge(21, none, "the last one was recast", () -> {
             BellCores x = hallOf(20);

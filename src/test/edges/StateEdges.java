@@ -3,23 +3,26 @@ final class StateEdges extends Foundries {
     private static void edgesOfReasons() {
         String first = "Something is refused for the first that applies of the reasons that its method names, in the "
             + "order in which it names them, with a detail";
-        edge(0, first, "a pour for which all apply, and fewer and fewer", () -> {
-            BellCores x = twelve(720);
-            letHoursGoBy(x, 288);
-            x.mould(60, 0);
-            settled(x);
-            refused(x, "12 bells, a full rack, no bronze, no heat", 1, 12, () -> x.pour(0, 0));
-            x.take(0);
-            x.recast(0);
-            refused(x, "a full rack, no bronze, no heat", 1, 3, () -> x.pour(0, 1));
-            refused(x, "54 pounds, no heat", 2, 256, () -> x.pour(0, 0));
+        edge(0, first, "12 bells, a full rack, no bronze and no heat", () -> {
+            BellCores x = lackingAll();
+            refused(x, "pour", 1, 12, () -> x.pour(0, 0));
+        });
+        edge(0, first, "a full rack, no bronze and no heat", () -> {
+            BellCores x = lackingRoomOnRacks();
+            refused(x, "pour", 1, 3, () -> x.pour(0, 1));
+        });
+        edge(0, first, "no bronze and no heat", () -> {
+            BellCores x = lackingRoomOnRacks();
+            refused(x, "pour with 54 pounds", 2, 256, () -> x.pour(0, 0));
+        });
+        edge(0, first, "no heat, and then nothing", () -> {
+            BellCores x = lackingRoomOnRacks();
             x.bronze(256);
-            refused(x, "no heat", 3, 1160, () -> x.pour(0, 0));
             x.coal(20);
             x.coal(18);
-            refused(x, "20 lack", 3, 20, () -> x.pour(0, 0));
+            refused(x, "pour with the heat 1160", 3, 20, () -> x.pour(0, 0));
             x.coal(1);
-            due("enough", 11, () -> x.pour(0, 0));
+            due("pour with the heat 1190", 11, () -> x.pour(0, 0));
         });
         edge(0, first, "a bell to recast on a rack, and too many pounds", () -> {
             BellCores x = lone(1, 4);
@@ -31,21 +34,39 @@ final class StateEdges extends Foundries {
             refused(x, "in the hall", 1, 2000, () -> x.recast(0));
         });
         edge(0, "1, there would be more than 8 moulds, 4 racks, 12 bells, 3 bells on the rack, or 2000 pounds: this "
-            + "greatest number;", "each of the five", () -> {
-            BellCores x = withMoulds(twelve(2000), 10, 10, 10, 10, 10, 10, 10, 10);
-            x.bronze(500);
-            x.bronze(220);
-            settled(x);
-            refused(x, "moulds", 1, 8, () -> x.mould(10, 0));
-            refused(x, "racks", 1, 4, () -> x.rack(1));
-            refused(x, "bells", 1, 12, () -> x.pour(0, 0));
-            refused(x, "pounds", 1, 2000, () -> x.bronze(1));
-            x.pass(20);
-            x.take(0);
-            settled(x);
-            refused(x, "pounds by a recast", 1, 2000, () -> x.recast(0));
+            + "greatest number;", "each of the five, when all is full", () -> {
+            allFullRefuses("moulds", 8, (x, n) -> x.mould(10, 0));
+            allFullRefuses("racks", 4, (x, n) -> x.rack(1));
+            allFullRefuses("bells", 12, (x, n) -> x.pour(0, 0));
+            allFullRefuses("pounds", 2000, (x, n) -> x.bronze(1));
+            allFullRefuses("pounds by a recast", 2000, (x, n) -> x.recast(0));
+            BellCores rack = lackingRoomOnRacks();
+            refused(rack, "bells on the rack", 1, 3, () -> rack.pour(0, 3));
         });
         edgesOfDetails();
+    }
+
+    /** 12 bells, a cold furnace without pounds, and a mould with the core 60. */
+    private static BellCores lackingAll() {
+        BellCores x = twelve(720);
+        letHoursGoBy(x, 288);
+        return withMoulds(x, 60);
+    }
+
+    /** The same with a bell less on rack 0, of which 54 pounds came back. */
+    private static BellCores lackingRoomOnRacks() {
+        BellCores x = lackingAll();
+        x.take(0);
+        x.recast(0);
+        return settled(x);
+    }
+
+    /** 8 moulds, 4 racks, 12 bells, of which the first is in the hall, and 2000 pounds. */
+    private static void allFullRefuses(String what, int greatest, Asked call) {
+        BellCores x = withMoulds(twelveCold(0), 10, 10, 10, 10, 10, 10, 10, 10);
+        bringPounds(x, 720);
+        settled(x);
+        refused(x, what, 1, greatest, () -> call.answer(x, 0));
     }
 
     private static void edgesOfDetails() {
@@ -71,14 +92,14 @@ final class StateEdges extends Foundries {
         });
         edge(0, "5, the bell is in the hall, or is not: its rack, or -1 for the hall;",
             "the hall, and the last rack", () -> {
-            BellCores x = twelve(2000);
-            x.pass(20);
-            x.take(0);
-            settled(x);
-            refused(x, "take in the hall", 5, -1, () -> x.take(0));
-            refused(x, "ring on rack 3", 5, 3, () -> x.ring(11));
-            refused(x, "file on rack 2", 5, 2, () -> x.file(8, 6));
-            refused(x, "recast on rack 0", 5, 0, () -> x.recast(1));
+            BellCores take = twelveCold(0);
+            refused(take, "take in the hall", 5, -1, () -> take.take(0));
+            BellCores ring = twelveCold(0);
+            refused(ring, "ring on rack 3", 5, 3, () -> ring.ring(11));
+            BellCores file = twelveCold(0);
+            refused(file, "file on rack 2", 5, 2, () -> file.file(8, 6));
+            BellCores recast = twelveCold(0);
+            refused(recast, "recast on rack 0", 5, 0, () -> recast.recast(1));
         });
         edge(0, "6, there are bells on the rack: how many;", "1, 2 and 3", () -> {
             BellCores x = withRacks(hot(), 1, 1);

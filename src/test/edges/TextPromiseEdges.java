@@ -1,3 +1,5 @@
+import java.util.function.Supplier;
+
 /** Promises 25 to 31: lines, texts and reasons. */
 final class TextPromiseEdges extends Foundries {
     private static void dueLine(BellCores x, String want, Call call) {
@@ -29,6 +31,15 @@ final class TextPromiseEdges extends Foundries {
             x.take(11);
             dueLine(x, "11@hn90", () -> x.line(11));
         });
+        edge(25, "as in \"3@0n64!!\".", "the document's own", () -> {
+            BellCores x = withRacks(hot(), 9, 1);
+            cast(x, 10, 4, 1);
+            cast(x, 10, 4, 1);
+            cast(x, 10, 4, 1);
+            cast(x, 34, 0, 0);
+            x.pass(2);
+            dueLine(x, "3@0n64!!", () -> x.line(3));
+        });
         edge(25, line, "no crack, one and 9; a longer line before", () -> {
             BellCores x = cracked(9);
             dueLine(x, "0@hn31!!!!!!!!!", () -> x.line(0));
@@ -47,6 +58,15 @@ final class TextPromiseEdges extends Foundries {
         });
         String rack = "Writes a line about a rack, in place of the line before: for each bell on it, by their "
             + "numbers, the number, \"w\" and its warmth, with a blank between two";
+        edge(26, "as in \"0w40 2w17\".", "the document's own", () -> {
+            BellCores x = withRacks(hot(), 1, 1);
+            cast(x, 24, 4, 0);
+            x.pass(1);
+            cast(x, 10, 4, 1);
+            cast(x, 10, 4, 0);
+            x.pass(1);
+            dueLine(x, "0w40 2w17", () -> x.rackLine(0));
+        });
         edge(26, rack, "no bell", () -> {
             BellCores x = cracked(3);
             x.line(0);
@@ -70,11 +90,12 @@ final class TextPromiseEdges extends Foundries {
     private static void edgesOfCharacters() {
         edge(27, noSuch("index"), "of an empty line, of one of 6 and of one of 16", () -> {
             among(settled(new BellCores()), 0, INDEX, (x, n) -> (int) x.character(n));
-            BellCores x = twelve(2000);
-            x.line(0);
-            among(x, 6, INDEX, (y, n) -> (int) y.character(n));
-            x.rackLine(3);
-            among(x, 16, INDEX, (y, n) -> (int) y.character(n));
+            BellCores ofBell = twelve(2000);
+            ofBell.line(0);
+            among(ofBell, 6, INDEX, (x, n) -> (int) x.character(n));
+            BellCores ofRack = twelve(2000);
+            ofRack.rackLine(3);
+            among(ofRack, 16, INDEX, (x, n) -> (int) x.character(n));
         });
         edge(27, "Returns a character of the line, which is empty at first.", "the first and the last one", () -> {
             BellCores x = hallOf(25);
@@ -140,17 +161,11 @@ final class TextPromiseEdges extends Foundries {
             dueOrders(hot(), new String[] {}, new String[] {"p0>0", "r1;p0>0", "m10s0;p0>0"});
         });
         edge(29, error, "the ends of t", () -> {
-            BellCores x = twelve(2000);
-            x.pass(20);
-            dueOrders(settled(x), new String[] {"t0", "t00", "t11"}, new String[] {"t12", "t99"});
+            dueOrders(twelveCold(), new String[] {"t0", "t00", "t11"}, new String[] {"t12", "t99"});
             dueOrders(hot(), new String[] {}, new String[] {"t0"});
         });
         edge(29, error, "the ends of k", () -> {
-            BellCores x = twelve(2000);
-            x.pass(20);
-            x.take(0);
-            x.take(11);
-            dueOrders(settled(x), new String[] {"k0", "k00", "k11"}, new String[] {"k12", "k99"});
+            dueOrders(twelveCold(0, 11), new String[] {"k0", "k00", "k11"}, new String[] {"k12", "k99"});
             dueOrders(hot(), new String[] {}, new String[] {"k0"});
         });
         edgesOfRunRefusals();
@@ -174,7 +189,7 @@ final class TextPromiseEdges extends Foundries {
         String before = stateOf(x);
         for (String order : taken) {
             due(order, 1, () -> run(x, order));
-            due("the change of " + order, false, () -> before.equals(stateOf(x)));
+            dueAccount(x, "the changes by " + order, 15, 1);
             due("the error position of " + order, -1, x::errorPosition);
             due("undo of " + order, 0, x::undo);
         }
@@ -236,8 +251,36 @@ final class TextPromiseEdges extends Foundries {
         });
     }
 
+    /** A text of one order and the call of its method lead from the same foundry to the same one. */
+    private static void sameAs(String order, Supplier<BellCores> foundry, Asked call) {
+        BellCores byText = foundry.get();
+        BellCores byCall = foundry.get();
+        due(order, 1, () -> run(byText, order));
+        call.answer(byCall, 0);
+        due("the state behind " + order, stateOf(byCall), () -> stateOf(byText));
+    }
+
     private static void edgesOfRunEnds() {
         String empty = "Carries out the text in the input, which is empty afterwards, also if an exception is thrown.";
+        edge(29, empty, "each order as its method, with its least and its greatest numbers", () -> {
+            Supplier<BellCores> moulds = () -> withRacks(eightMoulds(), 1, 2, 3, 4);
+            sameAs("c1", () -> lone(9, 0), (x, n) -> x.coal(1));
+            sameAs("c20", () -> foundry(20, 0), (x, n) -> x.coal(20));
+            sameAs("b1", () -> lone(9, 0), (x, n) -> x.bronze(1));
+            sameAs("b500", () -> foundry(20, 1500), (x, n) -> x.bronze(500));
+            sameAs("m10s0", () -> lone(9, 0), (x, n) -> x.mould(10, 0));
+            sameAs("m60s4", () -> lone(9, 0), (x, n) -> x.mould(60, 4));
+            sameAs("r1", () -> lone(9, 0), (x, n) -> x.rack(1));
+            sameAs("r9", () -> lone(9, 0), (x, n) -> x.rack(9));
+            sameAs("p0>0", moulds, (x, n) -> x.pour(0, 0));
+            sameAs("p7>3", moulds, (x, n) -> x.pour(7, 3));
+            sameAs("h1", () -> lone(9, 0), (x, n) -> x.pass(1));
+            sameAs("h48", () -> lone(3, 0), (x, n) -> x.pass(48));
+            sameAs("t0", () -> twelveCold(), (x, n) -> x.take(0));
+            sameAs("t11", () -> twelveCold(), (x, n) -> x.take(11));
+            sameAs("k0", () -> twelveCold(0, 11), (x, n) -> x.recast(0));
+            sameAs("k11", () -> twelveCold(0, 11), (x, n) -> x.recast(11));
+        });
         edge(29, empty, "behind a text, an error, a wrong order and a refusal", () -> {
             BellCores x = new BellCores();
             for (String text : new String[] {"c1", "c1;", "c1;c0", "r1;r1;r1;r1;r1", ""}) {

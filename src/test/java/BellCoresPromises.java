@@ -1,4 +1,5 @@
 import java.util.NoSuchElementException;
+import java.util.function.Function;
 
 /** For each promise of the document: ordinary inputs, the edges that it names, and wrong inputs. */
 public final class BellCoresPromises {
@@ -1043,35 +1044,34 @@ public final class BellCoresPromises {
     }
 
     private static void undoEachChange() {
-        BellCores x = cracked(2);
-        x.mould(10, 1);
-        x.coal(1);
-        dueUndone(x, "coal", () -> x.coal(2));
-        dueUndone(x, "bronze", () -> x.bronze(2));
-        dueUndone(x, "mould", () -> x.mould(11, 2));
-        dueUndone(x, "smash", () -> x.smash(0));
-        dueUndone(x, "rack", () -> x.rack(5));
-        dueUndone(x, "strike", () -> x.strike(1));
-        dueUndone(x, "pour", () -> x.pour(0, 1));
-        dueUndone(x, "pass", () -> x.pass(3));
-        dueUndone(x, "take", () -> x.take(1));
-        dueUndone(x, "ring", () -> x.ring(0));
-        dueUndone(x, "file", () -> x.file(0, 2));
-        dueUndone(x, "recast", () -> x.recast(0));
-        dueUndone(x, "run", () -> run(x, "c1;b1;m10s1;t1;t2;k0"));
+        dueUndone("coal", x -> x.coal(2));
+        dueUndone("bronze", x -> x.bronze(2));
+        dueUndone("mould", x -> x.mould(11, 2));
+        dueUndone("smash", x -> x.smash(0));
+        dueUndone("rack", x -> x.rack(5));
+        dueUndone("strike", x -> x.strike(1));
+        dueUndone("pour", x -> x.pour(0, 1));
+        dueUndone("pass", x -> x.pass(3));
+        dueUndone("take", x -> x.take(1));
+        dueUndone("ring", x -> x.ring(0));
+        dueUndone("file", x -> x.file(0, 2));
+        dueUndone("recast", x -> x.recast(0));
+        dueUndone("run", x -> run(x, "c1;b1;m10s1;t1;t2;k0"));
     }
 
     /** Makes room for the change first, by undoing the coal ahead of it. */
-    private static void dueUndone(BellCores x, String what, Call change) {
-        answerOf(x::undo);
+    private static void dueUndone(String what, Function<BellCores, Object> change) {
+        BellCores x = cracked(2);
+        x.mould(10, 1);
+        x.coal(1);
+        x.undo();
         String before = stateOf(x);
         int changes = x.account(15);
-        change.answer();
+        change.apply(x);
         due(36, what + " is a change", changes + 1, () -> x.account(15));
         due(36, what + " changes", false, () -> before.equals(stateOf(x)));
         due(36, what + " is undone", changes, x::undo);
         due(36, what + " leaves no trace", before, () -> stateOf(x));
-        x.coal(1);
     }
 
     /** All that changes can change. */
