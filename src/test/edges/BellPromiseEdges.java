@@ -12,6 +12,8 @@ final class BellPromiseEdges extends Foundries {
             among(withRacks(eightMoulds(), 1), 1, INDEX, (x, n) -> x.pour(7, n));
             among(withMoulds(fourRacks(), 10, 10), 4, INDEX, (x, n) -> x.pour(0, n));
         });
+        edge(10, noSuch, "-1 is no rack, with bells in the hall", () ->
+            among(withMoulds(hallOf(10, 20), 10), 1, INDEX, (x, n) -> x.pour(0, n)));
         edge(10, noSuch, "both", () -> among(settled(new BellCores()), 0, INDEX, (x, n) -> x.pour(n, n)));
         String reasons = reason("1, for the bells, then for those on the rack, 2 or 3");
         edge(10, reasons, "1 for the bells", () -> {

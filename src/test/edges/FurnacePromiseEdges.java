@@ -124,6 +124,8 @@ final class FurnacePromiseEdges extends Foundries {
             among(withRacks(new BellCores(), 1), 1, INDEX, BellCores::strike);
             among(fourRacks(), 4, INDEX, BellCores::strike);
         });
+        edge(8, noSuch("rack"), "-1 is none, with bells in the hall", () ->
+            among(hallOf(10, 20), 1, INDEX, BellCores::strike));
         edge(8, reason("6"), "one bell, cold", () -> {
             BellCores x = fourRacks();
             cast(x, 10, 4, 3);
@@ -147,6 +149,10 @@ final class FurnacePromiseEdges extends Foundries {
             among(settled(new BellCores()), 0, INDEX, (x, n) -> x.rackOf(n, 0));
             among(withRacks(new BellCores(), 1), 1, INDEX, (x, n) -> x.rackOf(n, 1));
             among(fourRacks(), 4, INDEX, (x, n) -> x.rackOf(n, 2));
+        });
+        edge(9, noSuch("rack"), "-1 is none, with bells in the hall", () -> {
+            among(hallOf(10, 20), 1, INDEX, (x, n) -> x.rackOf(n, 1));
+            among(hallOf(10, 20), 1, INDEX, (x, n) -> x.rackOf(n, 2));
         });
         edge(9, wrongArgument("what is not from 0 to 2"), "both ends", () ->
             range(Foundries::fourRacks, 0, 2, (x, n) -> x.rackOf(3, n)));

@@ -56,6 +56,8 @@ final class TextPromiseEdges extends Foundries {
             all.line(0);
             among(all, 4, INDEX, BellCores::rackLine);
         });
+        edge(26, noSuch("rack"), "-1 is none, with bells in the hall", () ->
+            among(hallOf(10, 20), 1, INDEX, BellCores::rackLine));
         String rack = "Writes a line about a rack, in place of the line before: for each bell on it, by their "
             + "numbers, the number, \"w\" and its warmth, with a blank between two";
         edge(26, "as in \"0w40 2w17\".", "the document's own", () -> {
